@@ -1,0 +1,111 @@
+import java.util.Arrays;
+
+/** Compares answers with what is due, and builds programs for the tests. */
+final class Due {
+    static final long UNTOLD = 1L << 62;
+    static final long ALL = 0xFFFFFFFFL;
+    static final int THROWS_STATE = 1;
+    static final int THROWS_ARITHMETIC = 2;
+    static final int THROWS_INDEX = 3;
+
+    static final int MOVE = 0, ADD = 1, SUBTRACT = 2, MULTIPLY = 3, AND = 4, OR = 5, XOR = 6, LEFT = 7;
+    static final int RIGHT = 8, RIGHT_SIGNED = 9, DIVIDE = 10, REST = 11, GET = 12, PUT = 13, LOAD = 14;
+    static final int BEYOND = 15, EQUAL = 16, UNLIKE = 17, LESS = 18, NOT_LESS = 19, LESS_SIGNED = 20;
+    static final int NOT_LESS_SIGNED = 21, GO = 22, END = 23;
+
+    private static int looked = 0;
+    private static int wrong = 0;
+
+    private Due() {
+    }
+
+    static void due(String what, long got, long want) {
+        looked++;
+        if (got != want) {
+            wrong++;
+            System.out.println(what + " answered " + got + ", due is " + want);
+        }
+    }
+
+    static void due(String what, boolean got, boolean want) {
+        due(what, got ? 1L : 0L, want ? 1L : 0L);
+    }
+
+    static void due(String what, String got, String want) {
+        looked++;
+        if (!got.equals(want)) {
+            wrong++;
+            System.out.println(what + " answered " + got + ", due is " + want);
+        }
+    }
+
+    static void finish() {
+        System.out.println(looked + " answers looked at, " + wrong + " of them wrong");
+        System.exit(wrong == 0 ? 0 : 1);
+    }
+
+    /** An instruction with a number for Y. */
+    static int[] number(int op, int a, int n) {
+        return new int[] {op, a, -1, n, 0};
+    }
+
+    /** An instruction with a register for Y. */
+    static int[] register(int op, int a, int b) {
+        return new int[] {op, a, b, 0, 0};
+    }
+
+    /** An instruction with all its parts. */
+    static int[] whole(int op, int a, int b, int n, int offset) {
+        return new int[] {op, a, b, n, offset};
+    }
+
+    static int[] end() {
+        return new int[] {END, 0, -1, 0, 0};
+    }
+
+    static ProgramGate gate(int[]... program) {
+        ProgramGate gate = new ProgramGate();
+        append(gate, program);
+        return gate;
+    }
+
+    static void append(ProgramGate gate, int[]... program) {
+        for (int[] i : program) {
+            due("add" + Arrays.toString(i), gate.add(i[0], i[1], i[2], i[3], i[4]), gate.size());
+        }
+    }
+
+    /** All that is known of a register: bits, ones, LOW, HIGH, LEAST, MOST, SAFE. */
+    static String row(ProgramGate gate, int r) {
+        StringBuilder text = new StringBuilder();
+        for (int what = 0; what <= 6; what++) {
+            text.append(what == 0 ? "" : " ").append(gate.known(r, what));
+        }
+        return text.toString();
+    }
+
+    static String row(long bits, long ones, long low, long high, long least, long most, long safe) {
+        return bits + " " + ones + " " + low + " " + high + " " + least + " " + most + " " + safe;
+    }
+
+    /** The answer of a run, or which exception it throws. */
+    static String ran(ProgramGate gate, int argument) {
+        try {
+            return "answer " + gate.run(argument);
+        } catch (IllegalStateException e) {
+            return thrown(THROWS_STATE);
+        } catch (ArithmeticException e) {
+            return thrown(THROWS_ARITHMETIC);
+        } catch (IndexOutOfBoundsException e) {
+            return thrown(THROWS_INDEX);
+        }
+    }
+
+    static String answer(int number) {
+        return "answer " + number;
+    }
+
+    static String thrown(int kind) {
+        return "exception " + kind;
+    }
+}
