@@ -302,7 +302,7 @@ public final class ProgramGate {
         }
     }
 
-    /** What is known of a number; nothing else of it counts while it is not set. */
+    /** What is known of a number; while it is not set, the other fields are left over and mean nothing. */
     private static final class Known {
         boolean set;
         int bits;
@@ -712,7 +712,11 @@ public final class ProgramGate {
                     store(a, y);
                     return true;
                 case LOAD:
-                    load(a, i.offset);
+                    if (i.offset == 4) {
+                        a.becomeNothing();
+                    } else {
+                        a.becomeUpTo(i.offset == 1 ? 255 : 65535);
+                    }
                     return true;
                 default:
                     boolean possible = Operation.outcome(i.op, a, y, first);
@@ -740,14 +744,6 @@ public final class ProgramGate {
                 if (now.places[p].set) {
                     now.places[p].meet(a);
                 }
-            }
-        }
-
-        private void load(Known a, int howMany) {
-            if (howMany == 4) {
-                a.becomeNothing();
-            } else {
-                a.becomeUpTo(howMany == 1 ? 255 : 65535);
             }
         }
 

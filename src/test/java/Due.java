@@ -1,4 +1,5 @@
 import java.util.Arrays;
+import java.util.List;
 
 /** Compares answers with what is due, and builds programs for the tests. */
 final class Due {
@@ -91,13 +92,12 @@ final class Due {
     /** The answer of a run, or which exception it throws. */
     static String ran(ProgramGate gate, int argument) {
         try {
-            return "answer " + gate.run(argument);
-        } catch (IllegalStateException e) {
-            return thrown(THROWS_STATE);
-        } catch (ArithmeticException e) {
-            return thrown(THROWS_ARITHMETIC);
-        } catch (IndexOutOfBoundsException e) {
-            return thrown(THROWS_INDEX);
+            return answer(gate.run(argument));
+        } catch (RuntimeException e) {
+            // The very class: an ArrayIndexOutOfBoundsException would be Java's own, not one that is thrown.
+            List<Class<?>> classes = List.of(IllegalStateException.class, ArithmeticException.class,
+                IndexOutOfBoundsException.class);
+            return thrown(1 + classes.indexOf(e.getClass()));
         }
     }
 

@@ -24,7 +24,7 @@ public final class PlainReadingTest {
     private void compareAll() {
         for (int k = 0; k < PROGRAMS; k++) {
             int kind = k % 10;
-            compare(kind < 3 ? straight() : kind < 6 ? tangled() : kind < 9 ? guarded() : manyWays());
+            compare(kind < 3 ? straight() : kind < 5 ? tangled() : kind < 8 ? guarded() : kind < 9 ? stacked() : manyWays());
         }
         // A generator that never raises some alarm would compare little there.
         for (int alarm = 0; alarm <= 7; alarm++) {
@@ -169,6 +169,22 @@ public final class PlainReadingTest {
             } else {
                 program.add(random.nextInt(4) == 0 ? Due.end() : operation(Due.MOVE));
             }
+        }
+        program.add(Due.end());
+        return program;
+    }
+
+    /** Puts and gets at places that are known only as a range, on two ways. */
+    private List<int[]> stacked() {
+        List<int[]> program = preface();
+        program.add(Due.register(Due.MOVE, 3, 2));
+        program.add(Due.number(Due.AND, 3, 1 + random.nextInt(3)));
+        program.add(Due.number(Due.ADD, 3, random.nextInt(2)));
+        program.add(new int[] {Due.BEYOND, 0, 1 + random.nextInt(3), random.nextInt(9), 2 + random.nextInt(3)});
+        for (int left = 4 + random.nextInt(6); left > 0; left--) {
+            int op = random.nextBoolean() ? Due.PUT : Due.GET;
+            int a = random.nextInt(6) == 0 ? 3 : new int[] {0, 1, 2, 4, 5}[random.nextInt(5)];
+            program.add(new int[] {op, a, random.nextBoolean() ? 3 : -1, random.nextInt(4), 0});
         }
         program.add(Due.end());
         return program;
