@@ -16,16 +16,20 @@ final class Due {
 
     private static int looked = 0;
     private static int wrong = 0;
+    private static int sentences = 0;
+    private static String sentence = "";
 
     private Due() {
     }
 
+    /** What is looked at from here on belongs to this sentence of the document. */
+    static void says(String words) {
+        sentences++;
+        sentence = words;
+    }
+
     static void due(String what, long got, long want) {
-        looked++;
-        if (got != want) {
-            wrong++;
-            System.out.println(what + " answered " + got + ", due is " + want);
-        }
+        look(got == want, what + " answered " + got + ", due is " + want);
     }
 
     static void due(String what, boolean got, boolean want) {
@@ -33,15 +37,20 @@ final class Due {
     }
 
     static void due(String what, String got, String want) {
+        look(got.equals(want), what + " answered " + got + ", due is " + want);
+    }
+
+    private static void look(boolean right, String told) {
         looked++;
-        if (!got.equals(want)) {
+        if (!right) {
             wrong++;
-            System.out.println(what + " answered " + got + ", due is " + want);
+            System.out.println((sentence.isEmpty() ? "" : "\"" + sentence + "\": ") + told);
         }
     }
 
     static void finish() {
-        System.out.println(looked + " answers looked at, " + wrong + " of them wrong");
+        String of = sentences == 0 ? "" : ", of " + sentences + " sentences";
+        System.out.println(looked + " answers looked at" + of + ", " + wrong + " of them wrong");
         System.exit(wrong == 0 ? 0 : 1);
     }
 
@@ -74,6 +83,16 @@ final class Due {
         for (int[] i : program) {
             due("add" + Arrays.toString(i), gate.add(i[0], i[1], i[2], i[3], i[4]), gate.size());
         }
+    }
+
+    /** A walk of the program, made twice, since the second must not know of the first. */
+    static void walks(String what, int want, int steps, int[]... program) {
+        ProgramGate x = gate(program);
+        due(what + ": steps before any walk", x.steps(), 0);
+        due(what + ": walk", x.walk(), want);
+        due(what + ": steps", x.steps(), steps);
+        due(what + ": walk again", x.walk(), want);
+        due(what + ": steps again", x.steps(), steps);
     }
 
     /** All that is known of a register: bits, ones, LOW, HIGH, LEAST, MOST, SAFE. */

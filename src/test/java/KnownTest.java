@@ -2,13 +2,6 @@ import java.util.Arrays;
 
 /** Promise 10, and with it what is known after each instruction. */
 public final class KnownTest {
-    private static final long ALL = Due.ALL;
-    private static final long MIN = Integer.MIN_VALUE;
-    private static final long MAX = Integer.MAX_VALUE;
-    private static final long HALF = 1L << 31;
-    private static final String NOTHING = Due.row(0, 0, 0, ALL, MIN, MAX, 0);
-    private static final String LENGTH = upTo(0xFFFFFFE0L, 0, 16);
-
     public static void main(String[] args) {
         wrongArguments();
         whichWay();
@@ -31,28 +24,8 @@ public final class KnownTest {
         Due.finish();
     }
 
-    /** A row whose bounds are alike signed and unsigned, and that has no known ones. */
-    private static String upTo(long bits, long low, long high) {
-        return Due.row(bits, 0, low, high, low, high, 0);
-    }
-
-    private static int[][] startedAndEnded(int[]... program) {
-        int[][] all = new int[program.length + 2][];
-        all[0] = Due.number(Due.MOVE, 0, 0);
-        System.arraycopy(program, 0, all, 1, program.length);
-        all[all.length - 1] = Due.end();
-        return all;
-    }
-
-    /** What is known of r after the instructions; a way that goes by 23 is not told of. */
-    private static void after(int r, String want, int[]... program) {
-        ProgramGate x = Due.gate(startedAndEnded(program));
-        x.walk();
-        Due.due("known of " + r + " after " + Arrays.deepToString(program), Due.row(x, r), want);
-    }
-
     private static void wrongArguments() {
-        ProgramGate x = Due.gate(startedAndEnded());
+        ProgramGate x = Due.gate(Told.startedAndEnded());
         for (int r = -1; r <= 6; r++) {
             Due.due("known before any walk", x.known(r, 0), Due.UNTOLD);
         }
@@ -117,114 +90,127 @@ public final class KnownTest {
     }
 
     private static void atTheBeginning() {
-        after(1, LENGTH);
-        after(2, NOTHING);
+        Told.after(1, Told.LENGTH);
+        Told.after(2, Told.NOTHING);
     }
 
     private static void numbers() {
-        after(3, Due.row(ALL, 5, 5, 5, 5, 5, 0), Due.number(Due.MOVE, 3, 5));
-        after(3, Due.row(ALL, ALL, ALL, ALL, -1, -1, 0), Due.number(Due.MOVE, 3, -1));
-        after(3, Due.row(ALL, HALF, HALF, HALF, MIN, MIN, 0), Due.number(Due.MOVE, 3, Integer.MIN_VALUE));
-        after(3, LENGTH, Due.register(Due.MOVE, 3, 1));
+        Told.after(3, Due.row(Told.ALL, 5, 5, 5, 5, 5, 0), Due.number(Due.MOVE, 3, 5));
+        Told.after(3, Due.row(Told.ALL, Told.ALL, Told.ALL, Told.ALL, -1, -1, 0), Due.number(Due.MOVE, 3, -1));
+        Told.after(3, Due.row(Told.ALL, Told.HALF, Told.HALF, Told.HALF, Told.MIN, Told.MIN, 0),
+            Due.number(Due.MOVE, 3, Integer.MIN_VALUE));
+        Told.after(3, Told.LENGTH, Due.register(Due.MOVE, 3, 1));
     }
 
     private static void sums() {
-        after(1, upTo(0xFFFFFFE0L, 4, 20), Due.number(Due.ADD, 1, 4));
-        after(1, upTo(0xFFFFFFC0L, 0, 32), Due.register(Due.ADD, 1, 1));
-        after(2, NOTHING, Due.number(Due.ADD, 2, 1));
+        Told.after(1, Told.upTo(0xFFFFFFE0L, 4, 20), Due.number(Due.ADD, 1, 4));
+        Told.after(1, Told.upTo(0xFFFFFFC0L, 0, 32), Due.register(Due.ADD, 1, 1));
+        Told.after(2, Told.NOTHING, Due.number(Due.ADD, 2, 1));
         // The lowest bits are known, up to the first unknown one.
-        after(2, Due.row(15, 5, 5, 4294967285L, MIN, MAX, 0), Due.number(Due.LEFT, 2, 4), Due.number(Due.ADD, 2, 5));
-        after(2, Due.row(15, 8, 8, ALL - 7, MIN, MAX, 0), Due.number(Due.LEFT, 2, 4),
+        Told.after(2, Due.row(15, 5, 5, 4294967285L, Told.MIN, Told.MAX, 0), Due.number(Due.LEFT, 2, 4),
+            Due.number(Due.ADD, 2, 5));
+        Told.after(2, Due.row(15, 8, 8, Told.ALL - 7, Told.MIN, Told.MAX, 0), Due.number(Due.LEFT, 2, 4),
             Due.number(Due.ADD, 2, -8));
         // Passing 2^32: the signed bounds hold alone, or none.
-        after(1, Due.row(0, 0, 0, ALL, -1, 15, 0), Due.number(Due.ADD, 1, -1));
-        after(1, Due.row(0xFFFFFFE0L, HALF, HALF, HALF + 16, MIN, MIN + 16, 0),
+        Told.after(1, Due.row(0, 0, 0, Told.ALL, -1, 15, 0), Due.number(Due.ADD, 1, -1));
+        Told.after(1, Due.row(0xFFFFFFE0L, Told.HALF, Told.HALF, Told.HALF + 16, Told.MIN, Told.MIN + 16, 0),
             Due.number(Due.ADD, 1, Integer.MIN_VALUE));
-        after(1, Due.row(0, 0, MAX - 1, HALF + 14, MIN, MAX, 0), Due.number(Due.ADD, 1, Integer.MAX_VALUE - 1));
-        after(3, Due.row(ALL, 0, 0, 0, 0, 0, 0), Due.number(Due.MOVE, 3, -1), Due.number(Due.ADD, 3, 1));
+        Told.after(1, Due.row(0, 0, Told.MAX - 1, Told.HALF + 14, Told.MIN, Told.MAX, 0),
+            Due.number(Due.ADD, 1, Integer.MAX_VALUE - 1));
+        Told.after(3, Due.row(Told.ALL, 0, 0, 0, 0, 0, 0), Due.number(Due.MOVE, 3, -1), Due.number(Due.ADD, 3, 1));
     }
 
     private static void differences() {
-        after(1, Due.row(0, 0, 0, ALL, -16, 0, 0), Due.number(Due.SUBTRACT, 1, 16));
-        after(1, LENGTH, Due.number(Due.ADD, 1, 1), Due.number(Due.SUBTRACT, 1, 1));
-        after(1, Due.row(0, 0, 0, ALL, -16, 16, 0), Due.register(Due.SUBTRACT, 1, 1));
-        after(3, Due.row(0xFFFFFFC0L, 64, 84, 100, 84, 100, 0), Due.number(Due.MOVE, 3, 100), Due.register(Due.SUBTRACT, 3, 1));
-        after(2, NOTHING, Due.number(Due.SUBTRACT, 2, 1));
+        Told.after(1, Due.row(0, 0, 0, Told.ALL, -16, 0, 0), Due.number(Due.SUBTRACT, 1, 16));
+        Told.after(1, Told.LENGTH, Due.number(Due.ADD, 1, 1), Due.number(Due.SUBTRACT, 1, 1));
+        Told.after(1, Due.row(0, 0, 0, Told.ALL, -16, 16, 0), Due.register(Due.SUBTRACT, 1, 1));
+        Told.after(3, Due.row(0xFFFFFFC0L, 64, 84, 100, 84, 100, 0), Due.number(Due.MOVE, 3, 100),
+            Due.register(Due.SUBTRACT, 3, 1));
+        Told.after(2, Told.NOTHING, Due.number(Due.SUBTRACT, 2, 1));
         // Neither the unsigned difference nor the signed one can be told.
-        after(1, NOTHING, Due.number(Due.SUBTRACT, 1, Integer.MIN_VALUE));
+        Told.after(1, Told.NOTHING, Due.number(Due.SUBTRACT, 1, Integer.MIN_VALUE));
         // LEAST less MOST is an int, MOST less LEAST is none: no signed bound at all.
-        after(1, NOTHING, Due.number(Due.SUBTRACT, 1, Integer.MIN_VALUE + 2));
-        after(2, Due.row(15, 13, 13, ALL - 2, MIN, MAX, 0), Due.number(Due.LEFT, 2, 4), Due.number(Due.SUBTRACT, 2, 3));
+        Told.after(1, Told.NOTHING, Due.number(Due.SUBTRACT, 1, Integer.MIN_VALUE + 2));
+        Told.after(2, Due.row(15, 13, 13, Told.ALL - 2, Told.MIN, Told.MAX, 0), Due.number(Due.LEFT, 2, 4),
+            Due.number(Due.SUBTRACT, 2, 3));
     }
 
     private static void products() {
-        after(1, upTo(0xFFFFFFC0L, 0, 48), Due.number(Due.MULTIPLY, 1, 3));
-        after(1, upTo(0xFFFFFFC0L, 3, 51), Due.number(Due.ADD, 1, 1), Due.number(Due.MULTIPLY, 1, 3));
+        Told.after(1, Told.upTo(0xFFFFFFC0L, 0, 48), Due.number(Due.MULTIPLY, 1, 3));
+        Told.after(1, Told.upTo(0xFFFFFFC0L, 3, 51), Due.number(Due.ADD, 1, 1), Due.number(Due.MULTIPLY, 1, 3));
         // 16 times this is just below 2^32, and 2^32.
-        after(1, Due.row(0, 0, 0, 4294967280L, MIN, MAX, 0), Due.number(Due.MULTIPLY, 1, 268435455));
-        after(1, NOTHING, Due.number(Due.MULTIPLY, 1, 268435457));
-        after(2, NOTHING, Due.register(Due.MULTIPLY, 2, 2));
-        after(2, NOTHING, Due.number(Due.MULTIPLY, 2, -1));
-        after(2, Due.row(15, 0, 0, 4294967280L, MIN, MAX, 0), Due.number(Due.LEFT, 2, 4), Due.number(Due.MULTIPLY, 2, 4));
-        after(3, Due.row(ALL, 4294967281L, 4294967281L, 4294967281L, -15, -15, 0), Due.number(Due.MOVE, 3, 5),
+        Told.after(1, Due.row(0, 0, 0, 4294967280L, Told.MIN, Told.MAX, 0), Due.number(Due.MULTIPLY, 1, 268435455));
+        Told.after(1, Told.NOTHING, Due.number(Due.MULTIPLY, 1, 268435457));
+        Told.after(2, Told.NOTHING, Due.register(Due.MULTIPLY, 2, 2));
+        Told.after(2, Told.NOTHING, Due.number(Due.MULTIPLY, 2, -1));
+        Told.after(2, Due.row(15, 0, 0, 4294967280L, Told.MIN, Told.MAX, 0), Due.number(Due.LEFT, 2, 4),
+            Due.number(Due.MULTIPLY, 2, 4));
+        Told.after(3, Due.row(Told.ALL, 4294967281L, 4294967281L, 4294967281L, -15, -15, 0), Due.number(Due.MOVE, 3, 5),
             Due.number(Due.MULTIPLY, 3, -3));
     }
 
     private static void bitwise() {
         int[] low4 = Due.number(Due.AND, 2, 15);
-        after(2, upTo(0xFFFFFFF0L, 0, 15), low4);
-        after(2, Due.row(0xFFFFFFF8L, 8, 8, 15, 8, 15, 0), low4, Due.number(Due.OR, 2, 8));
-        after(2, Due.row(0xFFFFFFF8L, 248, 248, 255, 248, 255, 0), low4, Due.number(Due.OR, 2, 8), Due.number(Due.XOR, 2, 240));
-        after(2, NOTHING, Due.register(Due.XOR, 2, 2));
-        after(2, NOTHING, Due.number(Due.XOR, 2, -1));
+        Told.after(2, Told.upTo(0xFFFFFFF0L, 0, 15), low4);
+        Told.after(2, Due.row(0xFFFFFFF8L, 8, 8, 15, 8, 15, 0), low4, Due.number(Due.OR, 2, 8));
+        Told.after(2, Due.row(0xFFFFFFF8L, 248, 248, 255, 248, 255, 0), low4, Due.number(Due.OR, 2, 8),
+            Due.number(Due.XOR, 2, 240));
+        Told.after(2, Told.NOTHING, Due.register(Due.XOR, 2, 2));
+        Told.after(2, Told.NOTHING, Due.number(Due.XOR, 2, -1));
         // AND: the lesser HIGH, OR: the greater LOW, where the bits tell less.
-        after(1, LENGTH, Due.register(Due.AND, 1, 1));
-        after(1, LENGTH, Due.register(Due.AND, 1, 2));
-        after(2, LENGTH, Due.register(Due.AND, 2, 1));
-        after(1, upTo(0xFFFFFFE0L, 3, 31), Due.number(Due.ADD, 1, 3), Due.register(Due.OR, 1, 1));
-        after(2, Due.row(0, 0, 3, ALL, MIN, MAX, 0), Due.number(Due.ADD, 1, 3), Due.register(Due.OR, 2, 1));
-        after(2, Due.row(HALF, HALF, HALF, ALL, MIN, -1, 0), Due.number(Due.OR, 2, Integer.MIN_VALUE));
-        after(2, Due.row(1, 1, 1, ALL, MIN, MAX, 0), Due.number(Due.OR, 2, 1));
-        after(2, Due.row(1, 0, 0, ALL - 1, MIN, MAX, 0), Due.number(Due.OR, 2, 1), Due.number(Due.XOR, 2, 1));
+        Told.after(1, Told.LENGTH, Due.register(Due.AND, 1, 1));
+        Told.after(1, Told.LENGTH, Due.register(Due.AND, 1, 2));
+        Told.after(2, Told.LENGTH, Due.register(Due.AND, 2, 1));
+        Told.after(1, Told.upTo(0xFFFFFFE0L, 3, 31), Due.number(Due.ADD, 1, 3), Due.register(Due.OR, 1, 1));
+        Told.after(2, Due.row(0, 0, 3, Told.ALL, Told.MIN, Told.MAX, 0), Due.number(Due.ADD, 1, 3),
+            Due.register(Due.OR, 2, 1));
+        Told.after(2, Due.row(Told.HALF, Told.HALF, Told.HALF, Told.ALL, Told.MIN, -1, 0),
+            Due.number(Due.OR, 2, Integer.MIN_VALUE));
+        Told.after(2, Due.row(1, 1, 1, Told.ALL, Told.MIN, Told.MAX, 0), Due.number(Due.OR, 2, 1));
+        Told.after(2, Due.row(1, 0, 0, Told.ALL - 1, Told.MIN, Told.MAX, 0), Due.number(Due.OR, 2, 1),
+            Due.number(Due.XOR, 2, 1));
     }
 
     private static void shifts() {
-        after(1, upTo(0xFFFFFF83L, 0, 124), Due.number(Due.LEFT, 1, 2));
+        Told.after(1, Told.upTo(0xFFFFFF83L, 0, 124), Due.number(Due.LEFT, 1, 2));
         // The bounds are not shifted to the left: what the bits tell is left.
-        after(1, upTo(0xFFFFFFE0L, 0, 31), Due.number(Due.LEFT, 1, 0));
-        after(1, upTo(0xFFFFFFE0L, 0, 31), Due.number(Due.LEFT, 1, 32));
-        after(1, upTo(0xFFFFFFF8L, 0, 4), Due.number(Due.RIGHT, 1, 2));
-        after(1, upTo(0xFFFFFFF8L, 0, 4), Due.number(Due.RIGHT, 1, -30));
-        after(2, upTo(0xFFFFFFF0L, 0, 15), Due.number(Due.RIGHT, 2, 28));
-        after(2, upTo(0xFFFFFFF0L, 0, 15), Due.number(Due.RIGHT, 2, 60));
-        after(2, NOTHING, Due.number(Due.RIGHT, 2, 0));
-        after(2, Due.row(0, 0, 0, ALL, -8, 7, 0), Due.number(Due.RIGHT_SIGNED, 2, 28));
-        after(2, Due.row(0xF8000000L, 0xF8000000L, 0xF8000000L, ALL, -134217728, -1, 0),
+        Told.after(1, Told.upTo(0xFFFFFFE0L, 0, 31), Due.number(Due.LEFT, 1, 0));
+        Told.after(1, Told.upTo(0xFFFFFFE0L, 0, 31), Due.number(Due.LEFT, 1, 32));
+        Told.after(1, Told.upTo(0xFFFFFFF8L, 0, 4), Due.number(Due.RIGHT, 1, 2));
+        Told.after(1, Told.upTo(0xFFFFFFF8L, 0, 4), Due.number(Due.RIGHT, 1, -30));
+        Told.after(2, Told.upTo(0xFFFFFFF0L, 0, 15), Due.number(Due.RIGHT, 2, 28));
+        Told.after(2, Told.upTo(0xFFFFFFF0L, 0, 15), Due.number(Due.RIGHT, 2, 60));
+        Told.after(2, Told.NOTHING, Due.number(Due.RIGHT, 2, 0));
+        Told.after(2, Due.row(0, 0, 0, Told.ALL, -8, 7, 0), Due.number(Due.RIGHT_SIGNED, 2, 28));
+        Told.after(2, Due.row(0xF8000000L, 0xF8000000L, 0xF8000000L, Told.ALL, -134217728, -1, 0),
             Due.number(Due.OR, 2, Integer.MIN_VALUE), Due.number(Due.RIGHT_SIGNED, 2, 4));
-        after(1, upTo(0xFFFFFFF8L, 0, 4), Due.number(Due.RIGHT_SIGNED, 1, 2));
-        after(2, Due.row(1, 1, 1, ALL, MIN >> 1, MAX >> 1, 0), Due.number(Due.OR, 2, 2), Due.number(Due.RIGHT_SIGNED, 2, 1));
-        after(1, Due.row(0xFFFFFFE0L, 0xFFFFFFC0L, ALL - 49, ALL - 41, -50, -42, 0), Due.number(Due.SUBTRACT, 1, 100),
+        Told.after(1, Told.upTo(0xFFFFFFF8L, 0, 4), Due.number(Due.RIGHT_SIGNED, 1, 2));
+        Told.after(2, Due.row(1, 1, 1, Told.ALL, Told.MIN >> 1, Told.MAX >> 1, 0), Due.number(Due.OR, 2, 2),
+            Due.number(Due.RIGHT_SIGNED, 2, 1));
+        Told.after(1, Due.row(0xFFFFFFE0L, 0xFFFFFFC0L, Told.ALL - 49, Told.ALL - 41, -50, -42, 0),
+            Due.number(Due.SUBTRACT, 1, 100),
             Due.number(Due.RIGHT_SIGNED, 1, 1));
-        after(3, Due.row(ALL, ALL - 3, ALL - 3, ALL - 3, -4, -4, 0), Due.number(Due.MOVE, 3, -16),
+        Told.after(3, Due.row(Told.ALL, Told.ALL - 3, Told.ALL - 3, Told.ALL - 3, -4, -4, 0),
+            Due.number(Due.MOVE, 3, -16),
             Due.number(Due.RIGHT_SIGNED, 3, 2));
         for (int op = Due.LEFT; op <= Due.RIGHT_SIGNED; op++) {
-            after(3, NOTHING, Due.number(Due.MOVE, 3, 1), Due.register(op, 3, 1));
-            after(3, Due.row(ALL, 5, 5, 5, 5, 5, 0), Due.number(Due.MOVE, 4, 32), Due.number(Due.MOVE, 3, 5),
+            Told.after(3, Told.NOTHING, Due.number(Due.MOVE, 3, 1), Due.register(op, 3, 1));
+            Told.after(3, Due.row(Told.ALL, 5, 5, 5, 5, 5, 0), Due.number(Due.MOVE, 4, 32), Due.number(Due.MOVE, 3, 5),
                 Due.register(op, 3, 4));
         }
     }
 
     private static void divisions() {
-        after(2, upTo(0xF0000000L, 0, 268435455), Due.number(Due.DIVIDE, 2, 16));
-        after(3, upTo(0xFFFFFF80L, 5, 100), Due.number(Due.MOVE, 3, 100), Due.number(Due.ADD, 1, 1),
+        Told.after(2, Told.upTo(0xF0000000L, 0, 268435455), Due.number(Due.DIVIDE, 2, 16));
+        Told.after(3, Told.upTo(0xFFFFFF80L, 5, 100), Due.number(Due.MOVE, 3, 100), Due.number(Due.ADD, 1, 1),
             Due.register(Due.DIVIDE, 3, 1));
-        after(1, Due.row(ALL, 0, 0, 0, 0, 0, 0), Due.number(Due.DIVIDE, 1, 17));
-        after(2, upTo(0xFFFFFFFEL, 0, 1), Due.number(Due.DIVIDE, 2, -1));
-        after(2, upTo(0xFFFFFFF0L, 0, 9), Due.number(Due.REST, 2, 10));
-        after(1, LENGTH, Due.number(Due.REST, 1, 100));
-        after(1, LENGTH, Due.number(Due.REST, 1, -1));
-        after(3, upTo(0xFFFFFFF8L, 0, 7), Due.number(Due.MOVE, 3, 7), Due.number(Due.REST, 3, 10));
-        after(2, upTo(0xFFFFFFE0L, 0, 16), Due.number(Due.ADD, 1, 1), Due.register(Due.REST, 2, 1));
+        Told.after(1, Due.row(Told.ALL, 0, 0, 0, 0, 0, 0), Due.number(Due.DIVIDE, 1, 17));
+        Told.after(2, Told.upTo(0xFFFFFFFEL, 0, 1), Due.number(Due.DIVIDE, 2, -1));
+        Told.after(2, Told.upTo(0xFFFFFFF0L, 0, 9), Due.number(Due.REST, 2, 10));
+        Told.after(1, Told.LENGTH, Due.number(Due.REST, 1, 100));
+        Told.after(1, Told.LENGTH, Due.number(Due.REST, 1, -1));
+        Told.after(3, Told.upTo(0xFFFFFFF8L, 0, 7), Due.number(Due.MOVE, 3, 7), Due.number(Due.REST, 3, 10));
+        Told.after(2, Told.upTo(0xFFFFFFE0L, 0, 16), Due.number(Due.ADD, 1, 1), Due.register(Due.REST, 2, 1));
     }
 
     private static String safeOf(ProgramGate x, int r) {
@@ -238,7 +224,7 @@ public final class KnownTest {
         all[0] = Due.number(Due.AND, 2, 15);
         all[1] = Due.whole(Due.BEYOND, 0, 2, 8, 23);
         System.arraycopy(program, 0, all, 2, program.length);
-        ProgramGate x = Due.gate(startedAndEnded(all));
+        ProgramGate x = Due.gate(Told.startedAndEnded(all));
         Due.due("SAFE of " + r + " after " + Arrays.deepToString(program), safeOf(x, r), Integer.toString(want));
     }
 
@@ -271,19 +257,21 @@ public final class KnownTest {
         // HIGH 2^32 - 4, so that 3 fits above it and 4 does not.
         int[] below = Due.whole(Due.NOT_LESS, 2, -1, -3, 23);
         int[] guard = Due.whole(Due.BEYOND, 0, 2, 8, 23);
-        Due.due("SAFE below 2^32", safeOf(Due.gate(startedAndEnded(below, guard, Due.number(Due.ADD, 2, 3))), 2), "5");
-        Due.due("SAFE at 2^32", safeOf(Due.gate(startedAndEnded(below, guard, Due.number(Due.ADD, 2, 4))), 2), "0");
+        Due.due("SAFE below 2^32", safeOf(Due.gate(Told.startedAndEnded(below, guard, Due.number(Due.ADD, 2, 3))), 2),
+            "5");
+        Due.due("SAFE at 2^32", safeOf(Due.gate(Told.startedAndEnded(below, guard, Due.number(Due.ADD, 2, 4))), 2),
+            "0");
         // Where BEYOND goes, what was known; that way is the later one here.
-        ProgramGate x = Due.gate(startedAndEnded(Due.whole(Due.BEYOND, 0, 2, 8, 1), Due.end()));
+        ProgramGate x = Due.gate(Told.startedAndEnded(Due.whole(Due.BEYOND, 0, 2, 8, 1), Due.end()));
         Due.due("SAFE where BEYOND goes", safeOf(x, 2), "0");
     }
 
     private static void loads() {
         int[] guard = Due.whole(Due.BEYOND, 0, 1, 4, 23);
-        after(3, upTo(0xFFFFFF00L, 0, 255), guard, Due.whole(Due.LOAD, 3, 1, 3, 1));
-        after(3, upTo(0xFFFF0000L, 0, 65535), guard, Due.whole(Due.LOAD, 3, 1, 2, 2));
-        after(3, NOTHING, guard, Due.whole(Due.LOAD, 3, 1, 0, 4));
-        after(1, Due.row(0xFFFFFFE0L, 0, 0, 16, 0, 16, 4), guard, Due.whole(Due.LOAD, 3, 1, 0, 4));
+        Told.after(3, Told.upTo(0xFFFFFF00L, 0, 255), guard, Due.whole(Due.LOAD, 3, 1, 3, 1));
+        Told.after(3, Told.upTo(0xFFFF0000L, 0, 65535), guard, Due.whole(Due.LOAD, 3, 1, 2, 2));
+        Told.after(3, Told.NOTHING, guard, Due.whole(Due.LOAD, 3, 1, 0, 4));
+        Told.after(1, Due.row(0xFFFFFFE0L, 0, 0, 16, 0, 16, 4), guard, Due.whole(Due.LOAD, 3, 1, 0, 4));
     }
 
     private static void stack() {
@@ -293,25 +281,27 @@ public final class KnownTest {
         int[] put5At0 = Due.number(Due.PUT, 3, 0);
         int[] put7At1 = Due.number(Due.PUT, 4, 1);
         String either = Due.row(0xFFFFFFFDL, 5, 5, 7, 5, 7, 0);
-        after(5, either, five, seven, bit, put5At0, put7At1, Due.register(Due.GET, 5, 2));
-        after(2, either, five, seven, bit, put5At0, put7At1, Due.register(Due.GET, 2, 2));
-        after(5, Due.row(ALL, 7, 7, 7, 7, 7, 0), five, seven, put5At0, put7At1, Due.number(Due.GET, 5, 1));
-        after(5, either, five, seven, bit, put5At0, Due.register(Due.PUT, 4, 2), Due.number(Due.GET, 5, 0));
-        after(5, Due.row(ALL, 7, 7, 7, 7, 7, 0), five, seven, put5At0, Due.number(Due.PUT, 4, 0), Due.number(Due.GET, 5, 0));
+        Told.after(5, either, five, seven, bit, put5At0, put7At1, Due.register(Due.GET, 5, 2));
+        Told.after(2, either, five, seven, bit, put5At0, put7At1, Due.register(Due.GET, 2, 2));
+        Told.after(5, Due.row(Told.ALL, 7, 7, 7, 7, 7, 0), five, seven, put5At0, put7At1, Due.number(Due.GET, 5, 1));
+        Told.after(5, either, five, seven, bit, put5At0, Due.register(Due.PUT, 4, 2), Due.number(Due.GET, 5, 0));
+        Told.after(5, Due.row(Told.ALL, 7, 7, 7, 7, 7, 0), five, seven, put5At0, Due.number(Due.PUT, 4, 0),
+            Due.number(Due.GET, 5, 0));
         // A PUT to 2 or 3 leaves 0 and 1 as they are.
-        after(5, Due.row(ALL, 5, 5, 5, 5, 5, 0), five, seven, bit, Due.number(Due.ADD, 2, 2), put5At0,
+        Told.after(5, Due.row(Told.ALL, 5, 5, 5, 5, 5, 0), five, seven, bit, Due.number(Due.ADD, 2, 2), put5At0,
             Due.number(Due.PUT, 3, 1), Due.register(Due.PUT, 4, 2), Due.number(Due.GET, 5, 1));
         // A PUT to 0 .. 3 meets all four of them; one to 1 or 2 those two.
         for (int place = 0; place <= 3; place++) {
-            after(5, either, five, seven, Due.number(Due.AND, 2, 3), put5At0, Due.number(Due.PUT, 3, 1),
+            Told.after(5, either, five, seven, Due.number(Due.AND, 2, 3), put5At0, Due.number(Due.PUT, 3, 1),
                 Due.number(Due.PUT, 3, 2), Due.number(Due.PUT, 3, 3), Due.register(Due.PUT, 4, 2),
                 Due.number(Due.GET, 5, place));
-            after(5, place == 1 || place == 2 ? either : Due.row(ALL, 5, 5, 5, 5, 5, 0), five, seven, bit,
+            Told.after(5, place == 1 || place == 2 ? either : Due.row(Told.ALL, 5, 5, 5, 5, 5, 0), five, seven, bit,
                 Due.number(Due.ADD, 2, 1), put5At0, Due.number(Due.PUT, 3, 1), Due.number(Due.PUT, 3, 2),
                 Due.number(Due.PUT, 3, 3), Due.register(Due.PUT, 4, 2), Due.number(Due.GET, 5, place));
         }
         // Numbers of either sign: LOW and HIGH, LEAST and MOST each for themselves.
-        after(5, Due.row(1, 1, 1, ALL, -1, 1, 0), Due.number(Due.MOVE, 3, 1), Due.number(Due.MOVE, 4, -1), bit, put5At0, put7At1, Due.register(Due.GET, 5, 2));
+        Told.after(5, Due.row(1, 1, 1, Told.ALL, -1, 1, 0), Due.number(Due.MOVE, 3, 1), Due.number(Due.MOVE, 4, -1),
+            bit, put5At0, put7At1, Due.register(Due.GET, 5, 2));
         // The lesser SAFE.
         safeAfter(4, 8, Due.number(Due.PUT, 2, 0), Due.number(Due.GET, 4, 0));
         safeAfter(4, 5, Due.number(Due.PUT, 2, 0), Due.number(Due.ADD, 2, 3), Due.number(Due.PUT, 2, 1),
@@ -320,85 +310,76 @@ public final class KnownTest {
             Due.number(Due.PUT, 3, 0), Due.number(Due.AND, 2, 1), Due.register(Due.GET, 4, 2));
     }
 
-    /** What is known of r on the way where the relation holds, the other one ending in an alarm, if it is walked. */
-    private static void where(int relation, int a, int b, int n, int r, String want, int[]... before) {
-        int[][] going = Arrays.copyOf(before, before.length + 2);
-        going[before.length] = Due.whole(relation, a, b, n, 1);
-        going[before.length + 1] = Due.end();
-        after(r, want, going);
-        int[][] staying = Arrays.copyOf(before, before.length + 1);
-        staying[before.length] = Due.whole(relation ^ 1, a, b, n, 23);
-        after(r, want, staying);
-    }
-
     private static void equal() {
-        where(Due.EQUAL, 2, 1, 0, 2, LENGTH);
-        where(Due.EQUAL, 2, 1, 0, 1, LENGTH);
-        where(Due.EQUAL, 1, 2, 0, 1, LENGTH);
-        where(Due.EQUAL, 1, 2, 0, 2, LENGTH);
-        where(Due.EQUAL, 2, -1, 9, 2, Due.row(ALL, 9, 9, 9, 9, 9, 0));
-        where(Due.EQUAL, 2, -1, -9, 2, Due.row(ALL, ALL - 8, ALL - 8, ALL - 8, -9, -9, 0));
-        where(Due.UNLIKE, 2, 1, 0, 2, NOTHING);
-        where(Due.UNLIKE, 2, 1, 0, 1, LENGTH);
-        where(Due.UNLIKE, 2, -1, 9, 2, NOTHING);
+        Told.where(Due.EQUAL, 2, 1, 0, 2, Told.LENGTH);
+        Told.where(Due.EQUAL, 2, 1, 0, 1, Told.LENGTH);
+        Told.where(Due.EQUAL, 1, 2, 0, 1, Told.LENGTH);
+        Told.where(Due.EQUAL, 1, 2, 0, 2, Told.LENGTH);
+        Told.where(Due.EQUAL, 2, -1, 9, 2, Due.row(Told.ALL, 9, 9, 9, 9, 9, 0));
+        Told.where(Due.EQUAL, 2, -1, -9, 2, Due.row(Told.ALL, Told.ALL - 8, Told.ALL - 8, Told.ALL - 8, -9, -9, 0));
+        Told.where(Due.UNLIKE, 2, 1, 0, 2, Told.NOTHING);
+        Told.where(Due.UNLIKE, 2, 1, 0, 1, Told.LENGTH);
+        Told.where(Due.UNLIKE, 2, -1, 9, 2, Told.NOTHING);
         // An even number and one from 4 to 20.
         int[] even = Due.number(Due.LEFT, 2, 1);
         int[] more = Due.number(Due.ADD, 1, 4);
-        where(Due.EQUAL, 2, 1, 0, 1, upTo(0xFFFFFFE1L, 4, 20), even, more);
-        where(Due.EQUAL, 2, 1, 0, 2, upTo(0xFFFFFFE1L, 4, 20), even, more);
+        Told.where(Due.EQUAL, 2, 1, 0, 1, Told.upTo(0xFFFFFFE1L, 4, 20), even, more);
+        Told.where(Due.EQUAL, 2, 1, 0, 2, Told.upTo(0xFFFFFFE1L, 4, 20), even, more);
         // The bounds of both, unsigned and signed, and the greater SAFE.
         int[][] pair = {Due.register(Due.MOVE, 3, 1), Due.number(Due.ADD, 3, 5), Due.whole(Due.BEYOND, 0, 1, 8, 23),
             Due.whole(Due.BEYOND, 0, 3, 4, 23)};
-        where(Due.EQUAL, 3, 1, 0, 1, Due.row(0xFFFFFFE0L, 0, 5, 16, 5, 16, 8), pair);
-        where(Due.EQUAL, 3, 1, 0, 3, Due.row(0xFFFFFFE0L, 0, 5, 16, 5, 16, 8), pair);
-        where(Due.EQUAL, 1, 3, 0, 3, Due.row(0xFFFFFFE0L, 0, 5, 16, 5, 16, 8), pair);
+        Told.where(Due.EQUAL, 3, 1, 0, 1, Due.row(0xFFFFFFE0L, 0, 5, 16, 5, 16, 8), pair);
+        Told.where(Due.EQUAL, 3, 1, 0, 3, Due.row(0xFFFFFFE0L, 0, 5, 16, 5, 16, 8), pair);
+        Told.where(Due.EQUAL, 1, 3, 0, 3, Due.row(0xFFFFFFE0L, 0, 5, 16, 5, 16, 8), pair);
         int[][] signed = {Due.register(Due.MOVE, 3, 1), Due.number(Due.SUBTRACT, 3, 8), Due.register(Due.MOVE, 4, 1),
             Due.number(Due.SUBTRACT, 4, 12)};
-        where(Due.EQUAL, 3, 4, 0, 3, Due.row(0, 0, 0, ALL, -8, 4, 0), signed);
-        where(Due.EQUAL, 3, 4, 0, 4, Due.row(0, 0, 0, ALL, -8, 4, 0), signed);
+        Told.where(Due.EQUAL, 3, 4, 0, 3, Due.row(0, 0, 0, Told.ALL, -8, 4, 0), signed);
+        Told.where(Due.EQUAL, 3, 4, 0, 4, Due.row(0, 0, 0, Told.ALL, -8, 4, 0), signed);
     }
 
     private static void less() {
-        where(Due.LESS, 2, -1, 100, 2, upTo(0xFFFFFF80L, 0, 99));
-        where(Due.NOT_LESS, 2, -1, 100, 2, Due.row(0, 0, 100, ALL, MIN, MAX, 0));
-        where(Due.LESS, 2, -1, -1, 2, Due.row(0, 0, 0, ALL - 1, MIN, MAX, 0));
-        where(Due.NOT_LESS, 2, -1, Integer.MIN_VALUE, 2, Due.row(HALF, HALF, HALF, ALL, MIN, -1, 0));
-        where(Due.NOT_LESS, 2, -1, -1, 2, Due.row(ALL, ALL, ALL, ALL, -1, -1, 0));
+        Told.where(Due.LESS, 2, -1, 100, 2, Told.upTo(0xFFFFFF80L, 0, 99));
+        Told.where(Due.NOT_LESS, 2, -1, 100, 2, Due.row(0, 0, 100, Told.ALL, Told.MIN, Told.MAX, 0));
+        Told.where(Due.LESS, 2, -1, -1, 2, Due.row(0, 0, 0, Told.ALL - 1, Told.MIN, Told.MAX, 0));
+        Told.where(Due.NOT_LESS, 2, -1, Integer.MIN_VALUE, 2,
+            Due.row(Told.HALF, Told.HALF, Told.HALF, Told.ALL, Told.MIN, -1, 0));
+        Told.where(Due.NOT_LESS, 2, -1, -1, 2, Due.row(Told.ALL, Told.ALL, Told.ALL, Told.ALL, -1, -1, 0));
         // 5 .. 20 in register 3, 0 .. 16 in register 1.
         int[][] before = {Due.register(Due.MOVE, 3, 2), Due.number(Due.AND, 3, 15), Due.number(Due.ADD, 3, 5)};
-        where(Due.LESS, 3, 1, 0, 3, upTo(0xFFFFFFF0L, 5, 15), before);
-        where(Due.LESS, 3, 1, 0, 1, upTo(0xFFFFFFE0L, 6, 16), before);
-        where(Due.NOT_LESS, 3, 1, 0, 3, upTo(0xFFFFFFE0L, 5, 20), before);
-        where(Due.NOT_LESS, 3, 1, 0, 1, LENGTH, before);
-        where(Due.LESS, 1, 3, 0, 1, LENGTH, before);
-        where(Due.LESS, 1, 3, 0, 3, upTo(0xFFFFFFE0L, 5, 20), before);
-        where(Due.NOT_LESS, 1, 3, 0, 1, upTo(0xFFFFFFE0L, 5, 16), before);
-        where(Due.NOT_LESS, 1, 3, 0, 3, upTo(0xFFFFFFE0L, 5, 16), before);
+        Told.where(Due.LESS, 3, 1, 0, 3, Told.upTo(0xFFFFFFF0L, 5, 15), before);
+        Told.where(Due.LESS, 3, 1, 0, 1, Told.upTo(0xFFFFFFE0L, 6, 16), before);
+        Told.where(Due.NOT_LESS, 3, 1, 0, 3, Told.upTo(0xFFFFFFE0L, 5, 20), before);
+        Told.where(Due.NOT_LESS, 3, 1, 0, 1, Told.LENGTH, before);
+        Told.where(Due.LESS, 1, 3, 0, 1, Told.LENGTH, before);
+        Told.where(Due.LESS, 1, 3, 0, 3, Told.upTo(0xFFFFFFE0L, 5, 20), before);
+        Told.where(Due.NOT_LESS, 1, 3, 0, 1, Told.upTo(0xFFFFFFE0L, 5, 16), before);
+        Told.where(Due.NOT_LESS, 1, 3, 0, 3, Told.upTo(0xFFFFFFE0L, 5, 16), before);
     }
 
     private static void lessSigned() {
-        where(Due.LESS_SIGNED, 2, -1, 0, 2, Due.row(HALF, HALF, HALF, ALL, MIN, -1, 0));
-        where(Due.NOT_LESS_SIGNED, 2, -1, 0, 2, upTo(HALF, 0, MAX));
-        where(Due.LESS_SIGNED, 2, -1, 5, 2, Due.row(0, 0, 0, ALL, MIN, 4, 0));
-        where(Due.NOT_LESS_SIGNED, 2, -1, -5, 2, Due.row(0, 0, 0, ALL, -5, MAX, 0));
-        where(Due.NOT_LESS_SIGNED, 2, -1, Integer.MAX_VALUE, 2, Due.row(ALL, MAX, MAX, MAX, MAX, MAX, 0));
+        Told.where(Due.LESS_SIGNED, 2, -1, 0, 2, Due.row(Told.HALF, Told.HALF, Told.HALF, Told.ALL, Told.MIN, -1, 0));
+        Told.where(Due.NOT_LESS_SIGNED, 2, -1, 0, 2, Told.upTo(Told.HALF, 0, Told.MAX));
+        Told.where(Due.LESS_SIGNED, 2, -1, 5, 2, Due.row(0, 0, 0, Told.ALL, Told.MIN, 4, 0));
+        Told.where(Due.NOT_LESS_SIGNED, 2, -1, -5, 2, Due.row(0, 0, 0, Told.ALL, -5, Told.MAX, 0));
+        Told.where(Due.NOT_LESS_SIGNED, 2, -1, Integer.MAX_VALUE, 2,
+            Due.row(Told.ALL, Told.MAX, Told.MAX, Told.MAX, Told.MAX, Told.MAX, 0));
         // -8 .. 8 in register 3, 0 .. 16 in register 1.
         int[][] before = {Due.register(Due.MOVE, 3, 1), Due.number(Due.SUBTRACT, 3, 8)};
-        where(Due.LESS_SIGNED, 1, 3, 0, 1, upTo(0xFFFFFFF8L, 0, 7), before);
-        where(Due.LESS_SIGNED, 1, 3, 0, 3, upTo(0xFFFFFFF0L, 1, 8), before);
-        where(Due.NOT_LESS_SIGNED, 1, 3, 0, 1, LENGTH, before);
-        where(Due.NOT_LESS_SIGNED, 1, 3, 0, 3, Due.row(0, 0, 0, ALL, -8, 8, 0), before);
-        where(Due.LESS_SIGNED, 3, 1, 0, 3, Due.row(0, 0, 0, ALL, -8, 8, 0), before);
-        where(Due.NOT_LESS_SIGNED, 3, 1, 0, 3, upTo(0xFFFFFFF0L, 0, 8), before);
-        where(Due.NOT_LESS_SIGNED, 3, 1, 0, 1, upTo(0xFFFFFFF0L, 0, 8), before);
+        Told.where(Due.LESS_SIGNED, 1, 3, 0, 1, Told.upTo(0xFFFFFFF8L, 0, 7), before);
+        Told.where(Due.LESS_SIGNED, 1, 3, 0, 3, Told.upTo(0xFFFFFFF0L, 1, 8), before);
+        Told.where(Due.NOT_LESS_SIGNED, 1, 3, 0, 1, Told.LENGTH, before);
+        Told.where(Due.NOT_LESS_SIGNED, 1, 3, 0, 3, Due.row(0, 0, 0, Told.ALL, -8, 8, 0), before);
+        Told.where(Due.LESS_SIGNED, 3, 1, 0, 3, Due.row(0, 0, 0, Told.ALL, -8, 8, 0), before);
+        Told.where(Due.NOT_LESS_SIGNED, 3, 1, 0, 3, Told.upTo(0xFFFFFFF0L, 0, 8), before);
+        Told.where(Due.NOT_LESS_SIGNED, 3, 1, 0, 1, Told.upTo(0xFFFFFFF0L, 0, 8), before);
     }
 
     private static void oneRegisterTwice() {
-        where(Due.LESS, 1, 1, 0, 1, upTo(0xFFFFFFE0L, 1, 16));
-        where(Due.NOT_LESS, 1, 1, 0, 1, LENGTH);
-        where(Due.LESS_SIGNED, 1, 1, 0, 1, upTo(0xFFFFFFE0L, 1, 16));
-        where(Due.NOT_LESS_SIGNED, 1, 1, 0, 1, LENGTH);
-        where(Due.EQUAL, 1, 1, 0, 1, LENGTH);
-        where(Due.UNLIKE, 1, 1, 0, 1, LENGTH);
+        Told.where(Due.LESS, 1, 1, 0, 1, Told.upTo(0xFFFFFFE0L, 1, 16));
+        Told.where(Due.NOT_LESS, 1, 1, 0, 1, Told.LENGTH);
+        Told.where(Due.LESS_SIGNED, 1, 1, 0, 1, Told.upTo(0xFFFFFFE0L, 1, 16));
+        Told.where(Due.NOT_LESS_SIGNED, 1, 1, 0, 1, Told.LENGTH);
+        Told.where(Due.EQUAL, 1, 1, 0, 1, Told.LENGTH);
+        Told.where(Due.UNLIKE, 1, 1, 0, 1, Told.LENGTH);
     }
 }
