@@ -253,6 +253,12 @@ public final class KnownEdgeTest {
         Told.after(2, Due.row(HALF + 1, 1, 1, MAX, 1, MAX, 0), Due.number(Due.OR, 2, 3), Due.number(Due.RIGHT, 2, 1));
         Told.after(2, Told.upTo(0xFFFFFFFEL, 0, 1), Due.number(Due.RIGHT, 2, 31));
         Told.after(2, Told.exactly(1), Due.number(Due.OR, 2, MIN), Due.number(Due.RIGHT, 2, 31));
+        // A bit that is known as 0.
+        int[] withoutFour = Due.number(Due.AND, 2, -5);
+        Told.after(2, Due.row(9, 0, 0, ALL - 9, MIN, MAX, 0), withoutFour, Due.number(Due.LEFT, 2, 1));
+        Told.after(2, Told.upTo(HALF + 2, 0, MAX - 2), withoutFour, Due.number(Due.RIGHT, 2, 1));
+        Told.after(2, Due.row(2, 0, 0, ALL - 2, MIN >> 1, MAX >> 1, 0), withoutFour,
+            Due.number(Due.RIGHT_SIGNED, 2, 1));
         // By a register that is known exactly as well.
         Told.after(2, Told.exactly(MIN), odd, Due.number(Due.MOVE, 3, 31), Due.register(Due.LEFT, 2, 3));
     }
@@ -318,6 +324,19 @@ public final class KnownEdgeTest {
         Told.after(1, Told.upTo(0xFFFFFFC0L, 3, 35), Due.register(Due.MOVE, 3, 1), Due.number(Due.ADD, 3, 3),
             Due.register(Due.ADD, 1, 3));
         Told.after(1, Told.between(0, ALL, -16, 16), signed, Due.register(Due.ADD, 1, 1));
+        // b from 1 to 2^31 - 1, then to 2^31.
+        int[] three = Due.register(Due.MOVE, 3, 2);
+        Told.after(2, Told.between(1, ALL, MIN, MAX), below(2, MIN + 1), three, atLeast(3, 1), below(3, MIN),
+            Due.register(Due.ADD, 2, 3));
+        Told.after(2, Told.NOTHING, below(2, MIN + 1), three, atLeast(3, 1), Due.register(Due.ADD, 2, 3));
+        // b from MIN + 8, then from MIN + 7 on; to MAX - 8, then to MAX - 7.
+        int[] length = Due.register(Due.MOVE, 3, 1);
+        Told.after(1, Due.row(0xFFFFFFC0L, HALF, HALF, HALF + 32, MIN, MIN + 32, 0), length, signed,
+            Due.number(Due.ADD, 3, MIN + 8), Due.register(Due.ADD, 1, 3));
+        Told.after(1, Told.NOTHING, length, signed, Due.number(Due.ADD, 3, MIN + 7), Due.register(Due.ADD, 1, 3));
+        Told.after(1, Due.row(0xFFFFFFC0L, 0x7FFFFFC0L, MAX - 32, MAX, MAX - 32, MAX, 0), length, signed,
+            Due.number(Due.ADD, 3, MAX - 24), Due.register(Due.ADD, 1, 3));
+        Told.after(1, Told.NOTHING, length, signed, Due.number(Due.ADD, 3, MAX - 23), Due.register(Due.ADD, 1, 3));
     }
 
     private static void differences() {
@@ -338,6 +357,14 @@ public final class KnownEdgeTest {
         Told.after(1, Told.NOTHING, signed, Due.number(Due.SUBTRACT, 1, MAX - 6));
         // b with a range.
         Told.after(3, Told.between(0, ALL, -11, 5), Due.number(Due.MOVE, 3, 5), Due.register(Due.SUBTRACT, 3, 1));
+        // -8 .. 8 less what is at most MAX - 7, then MAX - 6; at least 8 - MAX, then 7 - MAX.
+        int[] length = Due.register(Due.MOVE, 3, 1);
+        Told.after(1, Due.row(0xFFFFFFC0L, HALF, HALF, HALF + 32, MIN, MIN + 32, 0), length, signed,
+            Due.number(Due.ADD, 3, MAX - 23), Due.register(Due.SUBTRACT, 1, 3));
+        Told.after(1, Told.NOTHING, length, signed, Due.number(Due.ADD, 3, MAX - 22), Due.register(Due.SUBTRACT, 1, 3));
+        Told.after(1, Due.row(0xFFFFFFC0L, 0x7FFFFFC0L, MAX - 32, MAX, MAX - 32, MAX, 0), length, signed,
+            Due.number(Due.ADD, 3, 8 - MAX), Due.register(Due.SUBTRACT, 1, 3));
+        Told.after(1, Told.NOTHING, length, signed, Due.number(Due.ADD, 3, 7 - MAX), Due.register(Due.SUBTRACT, 1, 3));
         Told.after(3, Due.row(0xFFFFFFE0L, 0, 4, 20, 4, 20, 0), Due.number(Due.MOVE, 3, 20),
             Due.register(Due.SUBTRACT, 3, 1));
     }
@@ -396,6 +423,10 @@ public final class KnownEdgeTest {
         Told.after(1, Told.between(0, ALL, -4, 4), signed, Due.number(Due.RIGHT_SIGNED, 1, 33));
         Told.after(1, Told.between(0, ALL, -1, 0), signed, Due.number(Due.RIGHT_SIGNED, 1, 31));
         Told.after(2, Told.exactly(-1), belowSigned(2, 0), Due.number(Due.RIGHT_SIGNED, 2, 31));
+        // -100 .. -84.
+        Told.after(1, Due.row(0xFFFFFFE0L, 0xFFFFFFC0L, ALL - 49, ALL - 41, -50, -42, 0),
+            Due.number(Due.SUBTRACT, 1, 100),
+            Due.number(Due.RIGHT_SIGNED, 1, 1));
         Told.after(1, Told.NOTHING, signed, Due.register(Due.RIGHT_SIGNED, 1, 1));
     }
 
@@ -467,6 +498,8 @@ public final class KnownEdgeTest {
         safe(2, 0, within(2, 16), Due.number(Due.ADD, 2, 1));
         safe(2, 15, within(2, 16), below(2, -1), Due.number(Due.ADD, 2, 1));
         safe(2, 0, within(2, 16), below(2, -1), Due.number(Due.ADD, 2, 2));
+        // It is b that is to be 0 .. 20, not a.
+        safe(2, 15, within(2, 16), atLeast(2, 25), below(2, 99), Due.number(Due.ADD, 2, 1));
         // It is a's SAFE, not b's.
         safe(3, 0, guard, Due.number(Due.MOVE, 3, 2), Due.register(Due.ADD, 3, 1));
     }
@@ -501,11 +534,13 @@ public final class KnownEdgeTest {
     private static void theMeet() {
         Due.says("the bits known alike in both; the lesser LOW and LEAST, the greater HIGH and MOST, the lesser SAFE.");
         meet(Due.row(0xFFFFFFFDL, 5, 5, 7, 5, 7, 0), Due.number(Due.MOVE, 3, 5), Due.number(Due.MOVE, 4, 7));
-        // 5 and 8 have all but bits 0, 2 and 3 alike; it is not tightened.
+        // 5 and 8 have all but bits 0, 2 and 3 alike.
         meet(Due.row(0xFFFFFFF2L, 0, 5, 8, 5, 8, 0), Due.number(Due.MOVE, 3, 5), Due.number(Due.MOVE, 4, 8));
         meet(Due.row(1, 1, 1, ALL, -1, 1, 0), Due.number(Due.MOVE, 3, 1), Due.number(Due.MOVE, 4, -1));
         meet(Told.between(0, ALL, -1, 0), Due.number(Due.MOVE, 3, 0), Due.number(Due.MOVE, 4, -1));
         meet(Told.exactly(6), Due.number(Due.MOVE, 3, 6), Due.number(Due.MOVE, 4, 6));
+        // It is not tightened: of 4 .. 7 with all bits of 4, and of 4, the greater HIGH is 7.
+        meet(Due.row(ALL, 4, 4, 7, 4, 7, 0), Told.joined(multiple(2, 4), Due.number(Due.MOVE, 4, 4)));
         // Bit 0 is known in both, bit 1 in one of them alone.
         meet(Due.row(1, 1, 1, ALL, MIN, MAX, 0), Due.register(Due.MOVE, 3, 2), Due.number(Due.OR, 3, 1),
             Due.number(Due.MOVE, 4, 3));

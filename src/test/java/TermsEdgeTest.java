@@ -322,8 +322,7 @@ public final class TermsEdgeTest {
     }
 
     private static void goesBeyondThePacketsEnd() {
-        Due.says("15 BEYOND: it goes by OFFSET if B + N (B unsigned; N from 0 to 16)"
-            + " is more than the packet's length.");
+        Due.says("15 BEYOND: it goes by OFFSET if B + N (B unsigned; N from 0 to 16) is more than the packet's length.");
         for (int length = 0; length <= 16; length++) {
             for (int n = 0; n <= 16; n++) {
                 ProgramGate x = Due.gate(Due.whole(Due.BEYOND, 0, 2, n, 1), Due.end(), Due.number(Due.MOVE, 0, 1),
@@ -483,12 +482,11 @@ public final class TermsEdgeTest {
             ProgramGate x = Due.gate(Due.register(Due.MOVE, 0, 2), Due.end());
             Due.due("register 2", Due.ran(x, argument), Due.answer(argument));
         }
-        // Each register and place is read, then changed, and read again as 0 by the next run.
+        // Each register and place is changed, and begins anew with the next run.
         for (int r : new int[] {0, 3, 4, 5}) {
-            ProgramGate x = Due.gate(Due.register(Due.MOVE, 1, r), Due.number(Due.MOVE, r, 7),
-                Due.register(Due.MOVE, 0, 1), Due.end());
-            Due.due("register " + r, Due.ran(x, 99), Due.answer(0));
-            Due.due("register " + r + " in the next run", Due.ran(x, 99), Due.answer(0));
+            ProgramGate x = Due.gate(Due.number(Due.ADD, r, 7), Due.register(Due.MOVE, 0, r), Due.end());
+            Due.due("register " + r, Due.ran(x, 99), Due.answer(7));
+            Due.due("register " + r + " in the next run", Due.ran(x, 99), Due.answer(7));
         }
         for (int place = 0; place <= 3; place++) {
             ProgramGate x = Due.gate(Due.number(Due.GET, 0, place), Due.number(Due.PUT, 2, place), Due.end());

@@ -50,6 +50,31 @@ public final class WalkEdgeTest {
         for (int place = 0; place <= 3; place++) {
             Due.walks("place " + place, 600, 1, Due.number(Due.GET, 0, place), Due.end());
         }
+        // So it is after a walk that set them all.
+        ProgramGate again = new ProgramGate();
+        for (int r = 0; r <= 5; r++) {
+            Due.append(again, Due.number(Due.MOVE, r, 0));
+        }
+        for (int place = 0; place <= 3; place++) {
+            Due.append(again, Due.number(Due.PUT, 0, place));
+        }
+        Due.append(again, Due.end());
+        Due.due("walk", again.walk(), 0);
+        for (int r : new int[] {0, 3, 4, 5}) {
+            again.clear();
+            Due.append(again, Due.register(Due.MOVE, 1, r));
+            Due.due("register " + r + " after another walk", again.walk(), 300);
+        }
+        for (int place = 0; place <= 3; place++) {
+            again.clear();
+            Due.append(again, Due.number(Due.GET, 1, place));
+            Due.due("place " + place + " after another walk", again.walk(), 600);
+        }
+        again.clear();
+        Due.append(again, ZERO, Due.end());
+        again.walk();
+        Due.due("register 1 after another walk", Due.row(again, 1), Told.LENGTH);
+        Due.due("register 2 after another walk", Due.row(again, 2), Told.NOTHING);
         // The packet at hand is of no matter.
         ProgramGate x = Due.gate(ZERO, Due.end());
         x.packet(0, 0, 3);
@@ -331,9 +356,33 @@ public final class WalkEdgeTest {
                 Due.whole(Due.BEYOND, 0, 2, n, 1), Due.end());
         }
         Told.after(1, Told.LENGTH, Due.whole(Due.BEYOND, 1, 2, 9, 23));
+        // Nothing is tightened on either way: a multiple of 4 from 4 to 7.
+        int[][] four = fourOnly();
+        Told.after(3, Due.row(ALL, 4, 4, 7, 4, 7, 9), Told.joined(four, Due.whole(Due.BEYOND, 0, 3, 9, 23)));
+        Told.after(3, Due.row(ALL, 4, 4, 7, 4, 7, 0), Told.joined(four, Due.whole(Due.BEYOND, 0, 3, 9, 1), Due.end()));
+        // What the way that does not go does to a register or a place is not known where it goes.
+        int[] five = Due.number(Due.MOVE, 3, 5);
+        int[] seven = Due.number(Due.MOVE, 4, 7);
+        for (int r = 0; r <= 5; r++) {
+            Told.after(r, Told.exactly(5), Due.number(Due.MOVE, r, 5), Due.whole(Due.BEYOND, 0, 1, 0, 2),
+                Due.number(Due.MOVE, r, 7), Due.end());
+        }
+        for (int place = 0; place <= 3; place++) {
+            Told.after(0, Told.exactly(5), five, Due.number(Due.PUT, 3, place), seven,
+                Due.whole(Due.BEYOND, 0, 1, 0, 2),
+                Due.number(Due.PUT, 4, place), Due.end(), Due.number(Due.GET, 0, place));
+            Due.walks("place " + place, 607, 8, Told.startedAndEnded(five, seven, Due.whole(Due.BEYOND, 0, 1, 0, 2),
+                Due.number(Due.PUT, 4, place), Due.end(), ZERO, Due.number(Due.GET, 0, place)));
+        }
         // Both are walked, though 0 + 0 is never beyond, and 17 always.
         Due.walks("0 + 0", 0, 4, ZERO, Due.whole(Due.BEYOND, 0, 0, 0, 1), Due.end(), Due.end());
         Due.walks("17 + 0", 0, 4, Due.number(Due.MOVE, 0, 17), Due.whole(Due.BEYOND, 0, 0, 0, 1), Due.end(), Due.end());
+    }
+
+    /** Register 3 is a multiple of 4 from 4 to 7: all its bits are known, and its bounds tell less. */
+    private static int[][] fourOnly() {
+        return new int[][] {Due.register(Due.MOVE, 3, 2), Due.number(Due.LEFT, 3, 2),
+            Due.whole(Due.LESS, 3, -1, 4, 23), Due.whole(Due.NOT_LESS, 3, -1, 8, 23)};
     }
 
     /** What is known of A and of B where the relation holds. */
@@ -358,6 +407,12 @@ public final class WalkEdgeTest {
         String narrow = Due.row(0xFFFFFFE0L, 0, 3, 16, 3, 16, 9);
         pair(Due.EQUAL, 3, 1, narrow, narrow, ranges);
         pair(Due.EQUAL, 1, 3, narrow, narrow, ranges);
+        // From 5 on and up to 2^31 + 8, of which nothing signed is known.
+        int[][] unsigned = {Due.register(Due.MOVE, 3, 2), Due.whole(Due.LESS, 2, -1, 5, 23),
+            Due.whole(Due.NOT_LESS, 3, -1, MIN + 9, 23)};
+        String inner = Told.between(5, HALF + 8, MIN, MAX);
+        pair(Due.EQUAL, 2, 3, inner, inner, unsigned);
+        pair(Due.EQUAL, 3, 2, inner, inner, unsigned);
         // -7 .. 9 and -9 .. 7.
         int[][] signed = {Due.register(Due.MOVE, 3, 1), Due.number(Due.SUBTRACT, 3, 7), Due.number(Due.SUBTRACT, 1, 9)};
         String middle = Told.between(0, ALL, -7, 7);
@@ -385,6 +440,10 @@ public final class WalkEdgeTest {
         int[][] before = {Due.register(Due.MOVE, 3, 1), Due.number(Due.ADD, 3, 3)};
         pair(Due.LESS, 3, 1, Told.upTo(0xFFFFFFF0L, 3, 15), Told.upTo(0xFFFFFFE0L, 4, 16), before);
         pair(Due.LESS, 1, 3, Told.LENGTH, Told.upTo(0xFFFFFFE0L, 3, 19), before);
+        // A from 0 to 2^31, Y from 2^31 - 1 on, of which nothing signed is known: they stay.
+        int[][] apart = {Due.register(Due.MOVE, 3, 2), Due.whole(Due.NOT_LESS, 3, -1, MIN + 1, 23),
+            Due.whole(Due.LESS, 2, -1, MAX, 23)};
+        pair(Due.LESS, 3, 2, Told.between(0, HALF, MIN, MAX), Told.between(MAX, ALL, MIN, MAX), apart);
         // The ends of the numbers.
         Told.walked(false, Due.LESS, 2, -1, 0);
         Told.where(Due.LESS, 2, -1, 1, 2, Told.exactly(0));
@@ -405,6 +464,10 @@ public final class WalkEdgeTest {
         int[][] before = {Due.register(Due.MOVE, 3, 1), Due.number(Due.ADD, 3, 3)};
         pair(Due.NOT_LESS, 1, 3, Told.upTo(0xFFFFFFE0L, 3, 16), Told.upTo(0xFFFFFFE0L, 3, 16), before);
         pair(Due.NOT_LESS, 3, 1, Told.upTo(0xFFFFFFE0L, 3, 19), Told.LENGTH, before);
+        // A from 2^31 - 1 on, Y from 0 to 2^31, of which nothing signed is known: they stay.
+        int[][] apart = {Due.register(Due.MOVE, 3, 2), Due.whole(Due.NOT_LESS, 3, -1, MIN + 1, 23),
+            Due.whole(Due.LESS, 2, -1, MAX, 23)};
+        pair(Due.NOT_LESS, 2, 3, Told.between(MAX, ALL, MIN, MAX), Told.between(0, HALF, MIN, MAX), apart);
         Told.where(Due.NOT_LESS, 2, -1, 0, 2, Told.NOTHING);
         Told.where(Due.NOT_LESS, 2, -1, -1, 2, Told.exactly(-1));
         Told.where(Due.NOT_LESS, 3, 2, 0, 2, Told.exactly(0), Due.number(Due.MOVE, 3, 0));
@@ -437,8 +500,7 @@ public final class WalkEdgeTest {
     private static void whatWasKnownBefore() {
         Due.says("(These use what was known of both before.)");
         // 4 .. 7 by its bounds, 4 by its bits: tightened it is 4, but Y's bounds are set from 4 .. 7.
-        int[][] four = {Due.register(Due.MOVE, 3, 2), Due.number(Due.LEFT, 3, 2), Due.whole(Due.LESS, 3, -1, 4, 23),
-            Due.whole(Due.NOT_LESS, 3, -1, 8, 23)};
+        int[][] four = fourOnly();
         Told.where(Due.NOT_LESS, 3, 1, 0, 3, Told.exactly(4), four);
         Told.where(Due.NOT_LESS, 3, 1, 0, 1, Told.upTo(0xFFFFFFF8L, 0, 7), four);
         Told.where(Due.LESS, 1, 3, 0, 1, Told.upTo(0xFFFFFFF8L, 0, 6), four);
@@ -508,8 +570,7 @@ public final class WalkEdgeTest {
         Told.walked(false, Due.LESS, 2, 2, 0, five, Due.whole(Due.LESS, 2, -1, 1, 23),
             Due.whole(Due.NOT_LESS, 2, -1, 4, 23));
         // Both are tightened, so Y's is, where nothing else changes.
-        int[][] four = {Due.register(Due.MOVE, 3, 2), Due.number(Due.LEFT, 3, 2), Due.whole(Due.LESS, 3, -1, 4, 23),
-            Due.whole(Due.NOT_LESS, 3, -1, 8, 23)};
+        int[][] four = fourOnly();
         Told.where(Due.NOT_LESS, 3, 3, 0, 3, Told.exactly(4), four);
         Told.where(Due.EQUAL, 3, 3, 0, 3, Told.exactly(4), four);
         Told.where(Due.UNLIKE, 3, 3, 0, 3, Due.row(ALL, 4, 4, 7, 4, 7, 0), four);
@@ -543,6 +604,13 @@ public final class WalkEdgeTest {
         Due.walks("all ways", 0, 8, ZERO, Due.whole(Due.BEYOND, 0, 1, 0, 2), Due.whole(Due.BEYOND, 0, 1, 0, 2),
             Due.end(),
             Due.whole(Due.BEYOND, 0, 1, 0, 1), Due.end(), Due.end());
+        // The ways that the alarm left are not taken up by the next walk.
+        ProgramGate x = Due.gate(Due.whole(Due.BEYOND, 0, 1, 0, 1), ALARMING, Due.end());
+        Due.due("walk", x.walk(), 301);
+        x.clear();
+        Due.append(x, ZERO, ZERO, Due.end());
+        Due.due("the next walk", x.walk(), 0);
+        Due.due("its steps", x.steps(), 3);
         Due.walks("the first alarm, others later", 303, 4, ZERO, Due.whole(Due.BEYOND, 0, 1, 0, 2),
             Due.whole(Due.BEYOND, 0, 1, 0, 2),
             ALARMING, Due.whole(Due.GO, 0, -1, 0, 23), Due.number(Due.DIVIDE, 0, 0));
