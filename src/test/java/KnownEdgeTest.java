@@ -8,6 +8,7 @@ public final class KnownEdgeTest {
     private static final int MAX = Integer.MAX_VALUE;
 
     public static void main(String[] args) {
+        safeTogether();
         nothing();
         numbers();
         exactly();
@@ -32,6 +33,7 @@ public final class KnownEdgeTest {
         signedBoundsShifted();
         quotients();
         rests();
+        roundedDown();
         impossibleAfterAnOperation();
         safeAfterAdd();
         safeAfterAnythingElse();
@@ -67,6 +69,26 @@ public final class KnownEdgeTest {
     private static int[][] multiple(int by, int low) {
         return new int[][] {Due.register(Due.MOVE, 3, 2), Due.number(Due.LEFT, 3, by), atLeast(3, low),
             below(3, 2 << by)};
+    }
+
+    private static void safeTogether() {
+        Due.says("SAFE, a number w, 0 .. 20: x unsigned and w together are at most the packet's length, if w is"
+            + " not 0.");
+        for (int w = 0; w <= 16; w++) {
+            Told.after(2, Due.row(0, 0, 0, ALL, MIN, MAX, w), within(2, w));
+            ProgramGate x = Due.gate(Due.whole(Due.BEYOND, 0, 2, w, 2), Due.number(Due.MOVE, 0, 1), Due.end(),
+                Due.end());
+            x.packet(0, 0, 16);
+            for (int argument : new int[] {0, 16 - w, 17 - w, 16, 17, -1, MIN}) {
+                boolean together = (argument & ALL) + w <= 16;
+                Due.due("a run with " + argument + " and " + w, Due.ran(x, argument), Due.answer(together ? 1 : 0));
+            }
+        }
+        // 16 is the most that BEYOND can tell, so 20 bytes are never safe, and SAFE 0 makes none so.
+        int[] guard = Due.whole(Due.BEYOND, 0, 2, 16, 1);
+        Due.walks("16 and 4", 702, 3, Told.startedAndEnded(guard, Due.whole(Due.LOAD, 0, 2, 16, 4)));
+        Due.walks("12 and 4", 0, 5, Told.startedAndEnded(guard, Due.whole(Due.LOAD, 0, 2, 12, 4)));
+        Due.walks("0 and 1", 701, 2, Told.startedAndEnded(Due.whole(Due.LOAD, 0, 2, 0, 1)));
     }
 
     private static void nothing() {
@@ -122,8 +144,8 @@ public final class KnownEdgeTest {
     }
 
     private static void tightenSigned() {
-        Due.says("(2) If LOW and HIGH are both below 2^31, or both not, LEAST becomes at least LOW as a number, MOST"
-            + " at most HIGH as a number.");
+        Due.says("(2) If LOW and HIGH are both below 2^31, or both not, LEAST becomes at least LOW as a number,"
+            + " MOST at most HIGH as a number.");
         // HIGH is 2^31 - 1, then 2^31; LOW is 2^31, then 2^31 - 1.
         Told.where(Due.LESS, 2, -1, MIN, 2, Told.upTo(HALF, 0, MAX));
         Told.where(Due.LESS, 2, -1, MIN + 1, 2, Told.between(0, HALF, MIN, MAX));
@@ -134,8 +156,8 @@ public final class KnownEdgeTest {
     }
 
     private static void tightenUnsigned() {
-        Due.says("(3) If LEAST and MOST are both below 0, or both not, LOW becomes at least LEAST unsigned, HIGH at"
-            + " most MOST unsigned.");
+        Due.says("(3) If LEAST and MOST are both below 0, or both not, LOW becomes at least LEAST unsigned, HIGH"
+            + " at most MOST unsigned.");
         // MOST is -1, then 0; LEAST is 0, then -1.
         Told.where(Due.LESS_SIGNED, 2, -1, 0, 2, Due.row(HALF, HALF, HALF, ALL, MIN, -1, 0));
         Told.where(Due.LESS_SIGNED, 2, -1, 1, 2, Told.between(0, ALL, MIN, 0));
@@ -147,8 +169,8 @@ public final class KnownEdgeTest {
     }
 
     private static void tightenBits() {
-        Due.says("(4) The bits above the highest one in which LOW and HIGH differ (all, if they don't) become known as"
-            + " they are in LOW.");
+        Due.says("(4) The bits above the highest one in which LOW and HIGH differ (all, if they don't) become"
+            + " known as they are in LOW.");
         Told.where(Due.LESS, 2, -1, 17, 2, Told.upTo(0xFFFFFFE0L, 0, 16));
         Told.where(Due.LESS, 2, -1, 16, 2, Told.upTo(0xFFFFFFF0L, 0, 15));
         Told.where(Due.LESS, 2, -1, 2, 2, Told.upTo(0xFFFFFFFEL, 0, 1));
@@ -169,8 +191,8 @@ public final class KnownEdgeTest {
     }
 
     private static void impossible() {
-        Due.says("If LOW is more than HIGH then, or LEAST more than MOST, or (in 4) a bit was known otherwise, it is"
-            + " IMPOSSIBLE.");
+        Due.says("If LOW is more than HIGH then, or LEAST more than MOST, or (in 4) a bit was known otherwise, it"
+            + " is IMPOSSIBLE.");
         // LOW 2^31 and HIGH 2^31 - 1: no other sign of it, neither in A nor in Y.
         Told.walked(false, Due.NOT_LESS, 2, -1, MIN, below(2, MIN));
         Told.walked(true, Due.NOT_LESS, 2, -1, MAX, below(2, MIN));
@@ -307,8 +329,8 @@ public final class KnownEdgeTest {
     }
 
     private static void sums() {
-        Due.says("ADD: LOW and HIGH are the sums, if that of the HIGHs is less than 2^32; LEAST and MOST are the sums,"
-            + " if both are ints.");
+        Due.says("ADD: LOW and HIGH are the sums, if that of the HIGHs is less than 2^32; LEAST and MOST are the"
+            + " sums, if both are ints.");
         // 0 .. 2^31 and 2^31 - 1, then and 2^31; nothing signed is known of it.
         Told.after(2, Told.between(MAX, ALL, MIN, MAX), below(2, MIN + 1), Due.number(Due.ADD, 2, MAX));
         Told.after(2, Told.NOTHING, below(2, MIN + 1), Due.number(Due.ADD, 2, MIN));
@@ -340,8 +362,8 @@ public final class KnownEdgeTest {
     }
 
     private static void differences() {
-        Due.says("SUBTRACT: LOW is a's LOW less b's HIGH, HIGH is a's HIGH less b's LOW, if the former is not below 0;"
-            + " LEAST is a's LEAST less b's MOST, MOST a's MOST less b's LEAST, if both are ints.");
+        Due.says("SUBTRACT: LOW is a's LOW less b's HIGH, HIGH is a's HIGH less b's LOW, if the former is not"
+            + " below 0; LEAST is a's LEAST less b's MOST, MOST a's MOST less b's LEAST, if both are ints.");
         // From 17 on less 1 .. 17, then from 16 on; nothing signed is known of it.
         int[] more = Due.number(Due.ADD, 1, 1);
         Told.after(2, Told.between(0, ALL - 1, MIN, MAX), more, atLeast(2, 17), Due.register(Due.SUBTRACT, 2, 1));
@@ -458,6 +480,24 @@ public final class KnownEdgeTest {
         Due.walks("by 0 .. 16", 401, 2, Told.startedAndEnded(Due.register(Due.REST, 0, 1)));
     }
 
+    private static void roundedDown() {
+        Due.says("(In all these divisions and shifts unsigned, rounded down, but for RIGHT SIGNED.)");
+        // 2^31 + 5 .. 2^32 - 7, in which the highest bit is no sign.
+        int[][] before = {atLeast(2, MIN + 5), below(2, -6)};
+        Told.after(2, Due.row(0xF8000000L, 0x08000000L, 0x08000000L, 0x0FFFFFFFL, 0x08000000L, 0x0FFFFFFFL, 0),
+            Told.joined(before, Due.number(Due.DIVIDE, 2, 16)));
+        Told.after(2, Due.row(0xF8000000L, 0x08000000L, 0x08000000L, 0x0FFFFFFFL, 0x08000000L, 0x0FFFFFFFL, 0),
+            Told.joined(before, Due.number(Due.RIGHT, 2, 4)));
+        Told.after(2, Told.exactly(1), Told.joined(before, Due.number(Due.DIVIDE, 2, MIN)));
+        // Signed it is MIN + 5 .. -7, rounded down as well.
+        Told.after(2, Due.row(0xF8000000L, 0xF8000000L, 0xF8000000L, ALL, -134217728, -1, 0),
+            Told.joined(before, Due.number(Due.RIGHT_SIGNED, 2, 4)));
+        // 7 .. 23 by 4, and shifted by 2: 1 .. 5.
+        int[] more = Due.number(Due.ADD, 1, 7);
+        Told.after(1, Told.upTo(0xFFFFFFF8L, 1, 5), more, Due.number(Due.DIVIDE, 1, 4));
+        Told.after(1, Told.upTo(0xFFFFFFF8L, 1, 5), more, Due.number(Due.RIGHT, 1, 2));
+    }
+
     private static void impossibleAfterAnOperation() {
         Due.says("Then it is tightened; if it is impossible, the way is not walked on (there is no alarm).");
         // All bits are those of 4, though it is at least 5: only another tightening finds that.
@@ -481,8 +521,8 @@ public final class KnownEdgeTest {
     }
 
     private static void safeAfterAdd() {
-        Due.says("of ADD, if b is exactly n from 0 to 20 and a's HIGH and n are less than 2^32 together, a's SAFE less"
-            + " n, or 0 if that is less.");
+        Due.says("of ADD, if b is exactly n from 0 to 20 and a's HIGH and n are less than 2^32 together, a's SAFE"
+            + " less n, or 0 if that is less.");
         int[] guard = within(1, 16);
         for (int n = 0; n <= 21; n++) {
             safe(1, Math.max(16 - n, 0), guard, Due.number(Due.ADD, 1, n));
@@ -532,7 +572,8 @@ public final class KnownEdgeTest {
     }
 
     private static void theMeet() {
-        Due.says("the bits known alike in both; the lesser LOW and LEAST, the greater HIGH and MOST, the lesser SAFE.");
+        Due.says("the bits known alike in both; the lesser LOW and LEAST, the greater HIGH and MOST, the lesser"
+            + " SAFE.");
         meet(Due.row(0xFFFFFFFDL, 5, 5, 7, 5, 7, 0), Due.number(Due.MOVE, 3, 5), Due.number(Due.MOVE, 4, 7));
         // 5 and 8 have all but bits 0, 2 and 3 alike.
         meet(Due.row(0xFFFFFFF2L, 0, 5, 8, 5, 8, 0), Due.number(Due.MOVE, 3, 5), Due.number(Due.MOVE, 4, 8));

@@ -172,9 +172,9 @@ public final class PromiseEdgeTest {
     }
 
     private static void addOfEachKind() {
-        Due.says("NONE, and nothing is done, when there are 24, op is not 0 .. 23, a is not 0 .. 5, b is not -1 .. 5,"
-            + " b is -1 for 14 or 15, n is not 0 .. 16 for 14 or 15, the offset is not 1, 2 or 4 for 14, or not 1 .."
-            + " 23 for 15 .. 22.");
+        Due.says("NONE, and nothing is done, when there are 24, op is not 0 .. 23, a is not 0 .. 5, b is not -1"
+            + " .. 5, b is -1 for 14 or 15, n is not 0 .. 16 for 14 or 15, the offset is not 1, 2 or 4 for 14, or not"
+            + " 1 .. 23 for 15 .. 22.");
         // All reasons with one another: none makes up for another one.
         for (int op = -1; op <= 24; op++) {
             for (int a : new int[] {-1, 0, 5, 6}) {
@@ -341,7 +341,8 @@ public final class PromiseEdgeTest {
     // ---- promises 6 and 7
 
     private static void walks() {
-        Due.says("Walks the program: 0 when it is let in, otherwise 100 * alarm and the instruction's place together.");
+        Due.says("Walks the program: 0 when it is let in, otherwise 100 * alarm and the instruction's place"
+            + " together.");
         Due.walks("let in", 0, 2, ZERO, Due.end());
         Due.walks("alarm 1 at 0", 100, 1);
         Due.walks("alarm 3 at 0", 300, 1, Due.end());
@@ -469,8 +470,8 @@ public final class PromiseEdgeTest {
     }
 
     private static void ranInstructions() {
-        Due.says("How many instructions the latest run made, the one that threw included (but none for the program's"
-            + " end); 0 before any.");
+        Due.says("How many instructions the latest run made, the one that threw included (but none for the"
+            + " program's end); 0 before any.");
         ProgramGate x = new ProgramGate();
         Due.due("before any", x.ran(), 0);
         Due.append(x, ZERO, Due.whole(Due.EQUAL, 2, -1, 1, 3), Due.register(Due.DIVIDE, 1, 2),

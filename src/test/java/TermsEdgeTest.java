@@ -261,8 +261,8 @@ public final class TermsEdgeTest {
     }
 
     private static void getsAndPuts() {
-        Due.says("12 GET: A becomes what lies at place Y of the stack. 13 PUT: A's number is put to place Y of the"
-            + " stack.");
+        Due.says("12 GET: A becomes what lies at place Y of the stack. 13 PUT: A's number is put to place Y of"
+            + " the stack.");
         ProgramGate x = Due.gate(Due.number(Due.MOVE, 3, 3), Due.register(Due.PUT, 3, 3), Due.number(Due.MOVE, 0, 8),
             Due.whole(Due.GET, 0, 3, 1, 0), Due.end());
         Due.due("what was put", Due.ran(x, 0), Due.answer(3));
@@ -278,8 +278,8 @@ public final class TermsEdgeTest {
     }
 
     private static void loadsBytes() {
-        Due.says("14 LOAD: A becomes OFFSET bytes (1, 2 or 4) of the packet from place B + N on (B unsigned; N from 0"
-            + " to 16), the first one lowest, zeros above.");
+        Due.says("14 LOAD: A becomes OFFSET bytes (1, 2 or 4) of the packet from place B + N on (B unsigned; N"
+            + " from 0 to 16), the first one lowest, zeros above.");
         int[] howMany = {1, 2, 4};
         int[] want = {0x80, 0xFF80, 0x01FEFF80};
         for (int k = 0; k < 3; k++) {
@@ -322,7 +322,8 @@ public final class TermsEdgeTest {
     }
 
     private static void goesBeyondThePacketsEnd() {
-        Due.says("15 BEYOND: it goes by OFFSET if B + N (B unsigned; N from 0 to 16) is more than the packet's length.");
+        Due.says("15 BEYOND: it goes by OFFSET if B + N (B unsigned; N from 0 to 16) is more than the packet's"
+            + " length.");
         for (int length = 0; length <= 16; length++) {
             for (int n = 0; n <= 16; n++) {
                 ProgramGate x = Due.gate(Due.whole(Due.BEYOND, 0, 2, n, 1), Due.end(), Due.number(Due.MOVE, 0, 1),
@@ -352,8 +353,8 @@ public final class TermsEdgeTest {
     }
 
     private static void relations() {
-        Due.says("16 EQUAL, 17 UNLIKE, 18 LESS, 19 NOT LESS (both unsigned), 20 LESS SIGNED, 21 NOT LESS SIGNED: it"
-            + " goes by OFFSET if A and Y are so.");
+        Due.says("16 EQUAL, 17 UNLIKE, 18 LESS, 19 NOT LESS (both unsigned), 20 LESS SIGNED, 21 NOT LESS SIGNED:"
+            + " it goes by OFFSET if A and Y are so.");
         // Unsigned, these grow from first to last; signed, the latter three come before the former three.
         int[] grown = {0, 1, MAX, MIN, -2, -1};
         for (int i = 0; i < grown.length; i++) {
@@ -471,8 +472,8 @@ public final class TermsEdgeTest {
     }
 
     private static void theMachineBegins() {
-        Due.says("THE MACHINE begins at 0 with the packet's length in register 1, an argument in register 2, all other"
-            + " registers and the stack 0, and ends at END.");
+        Due.says("THE MACHINE begins at 0 with the packet's length in register 1, an argument in register 2, all"
+            + " other registers and the stack 0, and ends at END.");
         for (int length : new int[] {0, 1, 8, 9, 16}) {
             ProgramGate x = Due.gate(Due.register(Due.MOVE, 0, 1), Due.end());
             x.packet(-1, -1, length);

@@ -40,8 +40,8 @@ public final class WalkEdgeTest {
     }
 
     private static void begins() {
-        Due.says("THE WALK begins at 0; known is: register 1: LOW and LEAST 0, HIGH and MOST 16, tightened; register"
-            + " 2: nothing; the other registers and the places are UNSET.");
+        Due.says("THE WALK begins at 0; known is: register 1: LOW and LEAST 0, HIGH and MOST 16, tightened;"
+            + " register 2: nothing; the other registers and the places are UNSET.");
         Told.after(1, Due.row(0xFFFFFFE0L, 0, 0, 16, 0, 16, 0));
         Told.after(2, Told.NOTHING);
         for (int r : new int[] {0, 3, 4, 5}) {
@@ -302,8 +302,8 @@ public final class WalkEdgeTest {
     }
 
     private static void puts() {
-        Due.says("PUT, if b is exactly one number: that place is what is known of A; otherwise each place LOW .. HIGH"
-            + " of b that is set becomes the meet of itself and A.");
+        Due.says("PUT, if b is exactly one number: that place is what is known of A; otherwise each place LOW .."
+            + " HIGH of b that is set becomes the meet of itself and A.");
         int[] five = Due.number(Due.MOVE, 3, 5);
         int[] seven = Due.number(Due.MOVE, 4, 7);
         int[] bit = Due.number(Due.AND, 2, 1);
@@ -333,8 +333,8 @@ public final class WalkEdgeTest {
     }
 
     private static void loads() {
-        Due.says("LOAD: of 1 or 2 bytes, LOW and LEAST are 0, HIGH and MOST 255 or 65535, no bit is known, tightened,"
-            + " SAFE 0; of 4 bytes nothing is known.");
+        Due.says("LOAD: of 1 or 2 bytes, LOW and LEAST are 0, HIGH and MOST 255 or 65535, no bit is known,"
+            + " tightened, SAFE 0; of 4 bytes nothing is known.");
         int[] guard = Due.whole(Due.BEYOND, 0, 2, 16, 23);
         for (int a : new int[] {2, 3}) {
             Told.after(a, Due.row(0xFFFFFF00L, 0, 0, 255, 0, 255, 0), guard, Due.whole(Due.LOAD, a, 2, 15, 1));
@@ -345,8 +345,8 @@ public final class WalkEdgeTest {
     }
 
     private static void beyond() {
-        Due.says("After BEYOND two ways go on: where it does not go, SAFE of B is at least N; and where it goes, what"
-            + " was known.");
+        Due.says("After BEYOND two ways go on: where it does not go, SAFE of B is at least N; and where it goes,"
+            + " what was known.");
         for (int n = 0; n <= 16; n++) {
             Told.after(2, Due.row(0, 0, 0, ALL, MIN, MAX, n), Due.whole(Due.BEYOND, 0, 2, n, 23));
             Told.after(2, Due.row(0, 0, 0, ALL, MIN, MAX, Math.max(n, 9)), Due.whole(Due.BEYOND, 0, 2, 9, 23),
@@ -392,9 +392,9 @@ public final class WalkEdgeTest {
     }
 
     private static void equal() {
-        Due.says("where they are EQUAL: for both, the bits known in either, the greater LOW and LEAST, the lesser HIGH"
-            + " and MOST, and the greater SAFE, tightened (impossible, too, if a bit is known otherwise in both);"
-            + " where they are not: what was known.");
+        Due.says("where they are EQUAL: for both, the bits known in either, the greater LOW and LEAST, the lesser"
+            + " HIGH and MOST, and the greater SAFE, tightened (impossible, too, if a bit is known otherwise in"
+            + " both); where they are not: what was known.");
         // Bit 0 is known of one, bit 1 of the other.
         int[][] bits = {Due.register(Due.MOVE, 3, 2), Due.number(Due.OR, 3, 1), Due.register(Due.MOVE, 4, 2),
             Due.number(Due.OR, 4, 2), Due.number(Due.XOR, 4, 2)};
@@ -521,8 +521,8 @@ public final class WalkEdgeTest {
     }
 
     private static void alikeAndExact() {
-        Due.says("EQUAL and UNLIKE: where they are not alike is not walked, either, if both are known exactly and as"
-            + " the same.");
+        Due.says("EQUAL and UNLIKE: where they are not alike is not walked, either, if both are known exactly and"
+            + " as the same.");
         for (int n : new int[] {0, 5, -1, MIN, MAX}) {
             int[] three = Due.number(Due.MOVE, 3, n);
             Told.walked(false, Due.UNLIKE, 3, -1, n, three);
@@ -540,8 +540,8 @@ public final class WalkEdgeTest {
     }
 
     private static void oneRegister() {
-        Due.says("A and Y being one register, both changes are made, A's first, Y's then from what was known before,"
-            + " and only Y's stays.");
+        Due.says("A and Y being one register, both changes are made, A's first, Y's then from what was known"
+            + " before, and only Y's stays.");
         // Of 0 .. 16, A's change leaves 0 .. 15, Y's 1 .. 16.
         Told.where(Due.LESS, 1, 1, 0, 1, Told.upTo(0xFFFFFFE0L, 1, 16));
         Told.where(Due.LESS_SIGNED, 1, 1, 0, 1, Told.upTo(0xFFFFFFE0L, 1, 16));
@@ -590,8 +590,8 @@ public final class WalkEdgeTest {
     }
 
     private static void overAtTheEnd() {
-        Due.says("The walk is over when all ways have come to END with register 0 set (if it is unset: alarm 3), or"
-            + " with the first alarm.");
+        Due.says("The walk is over when all ways have come to END with register 0 set (if it is unset: alarm 3),"
+            + " or with the first alarm.");
         Due.walks("register 0 is unset", 300, 1, Due.end());
         for (int r = 1; r <= 5; r++) {
             Due.walks("register " + r + " is set, 0 is not", 301, 2, Due.number(Due.MOVE, r, 0), Due.end());
