@@ -42,8 +42,14 @@ final class PlainReading {
         return program.size();
     }
 
-    void clear() {
+    int clear() {
+        int had = program.size();
         program.clear();
+        return had;
+    }
+
+    int size() {
+        return program.size();
     }
 
     void packet(long low, long high, int n) {

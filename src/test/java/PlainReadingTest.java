@@ -9,6 +9,8 @@ import java.util.Random;
  */
 public final class PlainReadingTest {
     private static final int PROGRAMS = 60_000;
+    private static final int LIVES = 500;
+    private static final int CALLS_OF_A_LIFE = 512;
     private static final int[] NUMBERS = {0, 1, 2, 3, 4, 5, 7, 8, 15, 16, 19, 20, 21, 31, 32, 33, 100, 255, 256,
         65535, 65536, -1, -2, -5, -16, Integer.MIN_VALUE, Integer.MIN_VALUE + 1, Integer.MAX_VALUE, 0x55555555};
 
@@ -18,13 +20,17 @@ public final class PlainReadingTest {
 
     public static void main(String[] args) {
         new PlainReadingTest().compareAll();
+        new PlainReadingTest().compareLives();
         Due.finish();
+    }
+
+    private List<int[]> program(int kind) {
+        return kind < 3 ? straight() : kind < 5 ? tangled() : kind < 8 ? guarded() : kind < 9 ? stacked() : manyWays();
     }
 
     private void compareAll() {
         for (int k = 0; k < PROGRAMS; k++) {
-            int kind = k % 10;
-            compare(kind < 3 ? straight() : kind < 5 ? tangled() : kind < 8 ? guarded() : kind < 9 ? stacked() : manyWays());
+            compare(program(k % 10));
         }
         // A generator that never raises some alarm would compare little there.
         for (int alarm = 0; alarm <= 7; alarm++) {
@@ -70,6 +76,68 @@ public final class PlainReadingTest {
                 holds(gate, Integer.parseInt(got.substring(7)), n, name.toString());
             }
         }
+    }
+
+    /** One object for all its 512 calls: nothing that an earlier call left over may show in a later one. */
+    private void compareLives() {
+        for (int k = 0; k < LIVES; k++) {
+            ProgramGate gate = new ProgramGate();
+            PlainReading plain = new PlainReading();
+            List<int[]> coming = new ArrayList<>();
+            for (int call = 1; call <= CALLS_OF_A_LIFE; call++) {
+                String name = "life " + k + ", call " + call + ": ";
+                if (!coming.isEmpty() && random.nextInt(8) > 0) {
+                    compareAdd(name, gate, plain, coming.remove(0));
+                } else {
+                    compareCall(name, gate, plain, coming);
+                }
+            }
+        }
+    }
+
+    private static void compareAdd(String name, ProgramGate gate, PlainReading plain, int[] i) {
+        int want = plain.size() == 24 ? ProgramGate.NONE : plain.add(i);
+        Due.due(name + "add" + Arrays.toString(i), gate.add(i[0], i[1], i[2], i[3], i[4]), want);
+    }
+
+    private void compareCall(String name, ProgramGate gate, PlainReading plain, List<int[]> coming) {
+        int r = random.nextInt(8) - 1;
+        int what = random.nextInt(9) - 1;
+        int argument = number();
+        int kind = random.nextInt(24);
+        if (kind == 0) {
+            Due.due(name + "clear", gate.clear(), plain.clear());
+            coming.addAll(program(random.nextInt(10)));
+        } else if (kind == 1) {
+            // What comes then stands behind a program already, or is too much for it.
+            Due.due(name + "add of no op", gate.add(Due.END + 1, 0, 0, 0, 0), ProgramGate.NONE);
+            coming.addAll(program(random.nextInt(10)));
+        } else if (kind == 2) {
+            comparePacket(name, gate, plain);
+        } else if (kind == 3) {
+            Due.due(name + "size", gate.size(), plain.size());
+        } else if (kind < 7) {
+            Due.due(name + "walk", gate.walk(), plain.walk());
+        } else if (kind < 9) {
+            Due.due(name + "steps", gate.steps(), plain.steps);
+        } else if (kind < 13) {
+            Due.due(name + "run(" + argument + ")", Due.ran(gate, argument), plain.run(argument));
+        } else if (kind < 15) {
+            Due.due(name + "ran", gate.ran(), plain.ran);
+        } else {
+            Due.due(name + "known(" + r + ", " + what + ")", gate.known(r, what), plain.known(r, what));
+        }
+    }
+
+    private void comparePacket(String name, ProgramGate gate, PlainReading plain) {
+        long low = random.nextLong();
+        long high = random.nextLong();
+        int n = random.nextInt(19) - 1;
+        boolean taken = n >= 0 && n <= 16;
+        if (taken) {
+            plain.packet(low, high, n);
+        }
+        Due.due(name + "packet of " + n, gate.packet(low, high, n), taken);
     }
 
     private static void holds(ProgramGate gate, int x, int length, String name) {
